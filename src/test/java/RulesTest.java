@@ -1,0 +1,146 @@
+import java.io.IOException;
+import java.lang.reflect.Field;
+import java.lang.reflect.Method;
+import java.lang.reflect.Modifier;
+import java.nio.charset.StandardCharsets;
+import java.nio.file.Files;
+import java.nio.file.Path;
+import java.util.ArrayList;
+import java.util.Arrays;
+import java.util.List;
+import java.util.Set;
+import java.util.TreeSet;
+import java.util.regex.Matcher;
+import java.util.regex.Pattern;
+
+/** The document's face, and the rules of LANGUAGE.md that can be seen by reflection or in the program's text. */
+public final class RulesTest {
+    private static final Check CHECK = new Check("RulesTest");
+    private static final Set<String> FACE = Set.of(
+            "int expression(int, int, int, int) throws IllegalArgumentException, IllegalStateException",
+            "int run(int) throws NoSuchElementException, IndexOutOfBoundsException, IllegalStateException, "
+                    + "UnsupportedOperationException, ArithmeticException",
+            "int element(int) throws IllegalStateException, IndexOutOfBoundsException",
+            "int failure()",
+            "int variable(int) throws IllegalArgumentException",
+            "int value(int, int) throws IllegalArgumentException, NoSuchElementException",
+            "int reset()",
+            "int count(int) throws IllegalArgumentException");
+    private static final Set<String> LIBRARY = Set.of("Arrays.copyOf", "System.arraycopy", "Math.max", "Math.abs",
+            "Math.floorDiv", "Math.floorMod");
+    private static final String[] FORBIDDEN = {"->", "::", "finally", "synchronized", "assert", "try", "catch", "Object",
+        "hashCode", "equals", "toString", "getMessage", "protected", "native", "volatile", "transient", "Exact", "@"};
+    private static final int MOST_LINES = 60;
+
+    public static void main(String[] args) throws IOException {
+        Path program = Path.of(args.length > 0 ? args[0] : ".", "src", "main", "java", "VectorLanguage.java");
+        String text = Files.readString(program, StandardCharsets.ISO_8859_1);
+        face();
+        members();
+        classesInside();
+        library(withoutComments(text));
+        forbiddenWords(withoutComments(text));
+        lengthOfMethods(text);
+        CHECK.end();
+    }
+
+    private static void face() {
+        Class<?> face = VectorLanguage.class;
+        CHECK.due("modifiers", Modifier.PUBLIC | Modifier.FINAL, face.getModifiers());
+        CHECK.due("constructors", 1, face.getDeclaredConstructors().length);
+        CHECK.due("constructor", "public VectorLanguage()", face.getDeclaredConstructors()[0].toString());
+        Set<String> shown = new TreeSet<>();
+        for (Method method : face.getDeclaredMethods()) {
+            if (Modifier.isPrivate(method.getModifiers())) {
+                continue;
+            }
+            CHECK.due("modifiers of " + method.getName(), Modifier.PUBLIC, method.getModifiers());
+            shown.add(told(method));
+        }
+        CHECK.due("methods", new TreeSet<>(FACE), shown);
+    }
+
+    private static String told(Method method) {
+        List<String> parameters = new ArrayList<>();
+        for (Class<?> type : method.getParameterTypes()) {
+            parameters.add(type.getSimpleName());
+        }
+        List<String> thrown = new ArrayList<>();
+        for (Class<?> type : method.getExceptionTypes()) {
+            thrown.add(type.getSimpleName());
+        }
+        return method.getReturnType().getSimpleName() + " " + method.getName() + "(" + String.join(", ", parameters) + ")"
+                + (thrown.isEmpty() ? "" : " throws " + String.join(", ", thrown));
+    }
+
+    private static void members() {
+        for (Field field : VectorLanguage.class.getDeclaredFields()) {
+            int modifiers = field.getModifiers();
+            boolean isFace = field.getName().equals("NA");
+            CHECK.due(field.getName() + " is private", !isFace, Modifier.isPrivate(modifiers));
+            CHECK.due(field.getName() + " changes only in objects", true,
+                    Modifier.isFinal(modifiers) || !Modifier.isStatic(modifiers));
+        }
+    }
+
+    private static void classesInside() {
+        Class<?>[] inside = VectorLanguage.class.getDeclaredClasses();
+        Set<String> faceNames = new TreeSet<>();
+        FACE.forEach(method -> faceNames.add(method.substring(4, method.indexOf('('))));
+        CHECK.due("at most twelve classes", true, inside.length + 1 <= 12);
+        for (Class<?> type : inside) {
+            CHECK.due(type + " is static", true, Modifier.isStatic(type.getModifiers()));
+            CHECK.due(type + " is not shown", false, (type.getModifiers() & (Modifier.PUBLIC | Modifier.PROTECTED)) != 0);
+            long fields = Arrays.stream(type.getDeclaredFields()).filter(f -> !Modifier.isStatic(f.getModifiers())).count();
+            CHECK.due(type + " has few fields", true, fields <= 20);
+            for (Method method : type.getDeclaredMethods()) {
+                CHECK.due(type + " " + method.getName() + " has few parameters", true, method.getParameterCount() <= 7);
+                CHECK.due(type + " " + method.getName() + " is no name of the face", false,
+                        faceNames.contains(method.getName()));
+            }
+        }
+    }
+
+    private static String withoutComments(String text) {
+        return text.replaceAll("(?s)/\\*.*?\\*/", "").replaceAll("//[^\n]*", "").replaceAll("\"[^\"\n]*\"", "\"\"");
+    }
+
+    private static void library(String code) {
+        Set<String> imports = new TreeSet<>();
+        Matcher line = Pattern.compile("(?m)^import (.*);").matcher(code);
+        while (line.find()) {
+            imports.add(line.group(1));
+        }
+        CHECK.due("imports", Set.of("java.util.Arrays", "java.util.NoSuchElementException"), imports);
+        Matcher call = Pattern.compile("\\b(Arrays|System|Math|Integer|Long|String)\\.\\w+").matcher(
+                code.replace("java.util.Arrays", ""));
+        while (call.find()) {
+            CHECK.due(call.group() + " is in the library", true, LIBRARY.contains(call.group()));
+        }
+    }
+
+    private static void forbiddenWords(String code) {
+        for (String word : FORBIDDEN) {
+            CHECK.due("no " + word, false, Pattern.compile("(?<!\\w)" + Pattern.quote(word) + "(?!\\w)").matcher(code)
+                    .find());
+        }
+        CHECK.due("no package", false, code.contains("package "));
+        CHECK.due("no array of arrays", false, code.contains("[]["));
+    }
+
+    /** A method begins at a line that ends with a brace behind a parenthesis, and ends at the next lone brace under it. */
+    private static void lengthOfMethods(String text) {
+        String[] lines = text.split("\n");
+        for (int k = 0; k < lines.length; k++) {
+            Matcher head = Pattern.compile("^( {4}| {8})\\w[^;=]*\\) (throws .*)?\\{$").matcher(lines[k]);
+            if (!head.matches()) {
+                continue;
+            }
+            int end = k;
+            while (end < lines.length && !lines[end].equals(head.group(1) + "}")) {
+                end++;
+            }
+            CHECK.due("at most " + MOST_LINES + " lines: " + lines[k].trim(), true, end - k + 1 <= MOST_LINES);
+        }
+    }
+}
