@@ -320,8 +320,7 @@ public final class VectorLanguage {
         }
 
         boolean hasParameter(int variable) {
-            // A function without parameters may have any number for the first one.
-            return parameters > 0 && variable >= first && variable < first + parameters;
+            return variable >= first && variable < first + parameters;
         }
     }
 
@@ -524,34 +523,24 @@ public final class VectorLanguage {
         }
 
         private void addThose(int[] indexes) {
-            for (int index : indexes) {
-                if (index != 0) {
-                    add(index == NA ? NA : index - 1);
+            for (int k = 0; k < indexes.length && count < LONGEST; k++) {
+                if (indexes[k] != 0) {
+                    row[count] = indexes[k] == NA ? NA : indexes[k] - 1;
+                    count++;
                 }
             }
         }
 
         private void addOthers(int[] indexes, int length) {
-            for (int place = 0; place < length; place++) {
-                if (!isAmong(indexes, -1 - place)) {
-                    add(place);
+            for (int place = 0; place < length && count < LONGEST; place++) {
+                boolean leftOut = false;
+                for (int index : indexes) {
+                    leftOut = leftOut || index == -1 - place;
                 }
-            }
-        }
-
-        private static boolean isAmong(int[] indexes, int wanted) {
-            for (int index : indexes) {
-                if (index == wanted) {
-                    return true;
+                if (!leftOut) {
+                    row[count] = place;
+                    count++;
                 }
-            }
-            return false;
-        }
-
-        private void add(int place) {
-            if (count < LONGEST) {
-                row[count] = place;
-                count++;
             }
         }
     }

@@ -23,6 +23,9 @@ public final class FailureTest {
         CHECK.answers("none for a caught one", 0, s.language::failure);
         s.fails("failure in the handler", 142, s.attempt(failing, raising));
         s.gives("whole run ended", s.then(s.end(one), failing), 1);
+        s.fails("failure after an ended run", 4, failing);
+        int ended = s.call(s.function(s.end(one), 0, 0));
+        s.fails("failure after an ended call", 4, s.then(ended, failing));
         CHECK.end();
     }
 }

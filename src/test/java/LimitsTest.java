@@ -6,6 +6,7 @@ public final class LimitsTest {
         steps();
         stepsAreOfOneRun();
         depth();
+        depthOfEachKind();
         depthOfCalls();
         depthOfArguments();
         depthOfReplacing();
@@ -71,6 +72,61 @@ public final class LimitsTest {
         s.fails("not caught", 9, s.attempt(s.not(deep), number));
         s.hasNothing("not caught", 9);
         s.gives("a part that is not evaluated", within(s, 37, s.choose(number, number, deep)), 0);
+    }
+
+    /** An expression with the part told right within it. */
+    private interface Around {
+        int build(Script s, int part);
+    }
+
+    private static final Around[] AROUND = {
+        (s, part) -> s.set(1, part),
+        (s, part) -> s.setAround(1, part),
+        (s, part) -> s.plus(part, s.number(1)),
+        (s, part) -> s.plus(s.number(1), part),
+        (s, part) -> s.comparison(0, part, s.number(1)),
+        (s, part) -> s.comparison(0, s.number(1), part),
+        (s, part) -> s.logic(0, part, s.number(1)),
+        (s, part) -> s.logic(0, s.number(1), part),
+        (s, part) -> s.not(part),
+        (s, part) -> s.join(part, s.number(1)),
+        (s, part) -> s.join(s.number(1), part),
+        (s, part) -> s.range(part, s.number(1)),
+        (s, part) -> s.range(s.number(1), part),
+        (s, part) -> s.pick(part, s.number(1)),
+        (s, part) -> s.pick(s.number(1), part),
+        (s, part) -> s.replace(1, part, s.number(1)),
+        (s, part) -> s.replace(1, s.number(1), part),
+        (s, part) -> s.length(part),
+        (s, part) -> s.sum(part),
+        (s, part) -> s.choose(part, s.number(1), s.number(1)),
+        (s, part) -> s.choose(s.number(1), part, s.number(1)),
+        (s, part) -> s.choose(s.number(0), s.number(1), part),
+        (s, part) -> s.repeat(part, s.end(s.number(1))),
+        (s, part) -> s.repeat(s.get(0), part),
+        (s, part) -> s.then(part, s.number(1)),
+        (s, part) -> s.then(s.number(1), part),
+        (s, part) -> s.call(part),
+        (s, part) -> s.call(s.function(part, 0, 0)),
+        (s, part) -> s.end(part),
+        (s, part) -> s.raise(part),
+        (s, part) -> s.attempt(part, s.number(1)),
+        (s, part) -> s.attempt(s.get(8), part),
+        (s, part) -> s.same(part, s.number(1)),
+        (s, part) -> s.same(s.number(1), part),
+    };
+
+    private static void depthOfEachKind() {
+        for (int k = 0; k < AROUND.length; k++) {
+            for (int levels = 39; levels <= 40; levels++) {
+                Script s = new Script(CHECK, "depth of each kind");
+                s.quietly(s.set(0, s.number(1)));
+                int part = within(s, levels - 2, s.set(0, s.number(0)));
+                s.quietly(AROUND[k].build(s, part));
+                CHECK.due("limit reached by " + levels + " levels in part " + k, levels == 40,
+                        s.language.failure() == 9);
+            }
+        }
     }
 
     private static void depthOfCalls() {

@@ -9,6 +9,7 @@ public final class VectorsTest {
         range();
         pick();
         pickWrongly();
+        indexesAfterOthers();
         replaceInside();
         replaceBeyond();
         replaceNothing();
@@ -94,6 +95,24 @@ public final class VectorsTest {
         s.fails("of NULL", 8, s.pick(s.nothing(), s.vector(1, -1)));
         s.fails("of a function", 3, s.pick(function, s.number(1)));
         s.fails("by a function", 3, s.pick(three, function));
+    }
+
+    private static void indexesAfterOthers() {
+        Script s = new Script(CHECK, "one after the other");
+        int three = s.vector(10, 20, 30);
+        int one = s.number(1);
+        s.gives("but", s.pick(three, s.number(-1)), 20, 30);
+        s.gives("one", s.pick(three, one), 10);
+        s.gives("NA", s.pick(three, s.na()), NA);
+        s.gives("but again", s.pick(three, s.number(-2)), 10, 30);
+        s.gives("far", s.pick(three, s.vector(0, 5, 9, 12)), NA, NA, NA);
+        s.gives("one again", s.then(s.set(0, three), s.replace(0, one, one)), 1);
+        s.has("one again", 0, 1, 20, 30);
+        int sixteen = s.range(one, s.number(16));
+        s.gives("sixteen", s.pick(sixteen, s.range(s.number(16), one)),
+                16, 15, 14, 13, 12, 11, 10, 9, 8, 7, 6, 5, 4, 3, 2, 1);
+        s.gives("sixteen replaced", s.then(s.replace(0, sixteen, sixteen), s.sum(s.get(0))), 136);
+        s.gives("all sixteen but", s.pick(sixteen, s.number(-17)), 1, 2, 3, 4, 5, 6, 7, 8, 9, 10, 11, 12, 13, 14, 15, 16);
     }
 
     private static void replaces(String what, int[] indexes, int[] elements, int... want) {
@@ -188,7 +207,13 @@ public final class VectorsTest {
         s.has("the outer one", 0, 1, 2);
         s.gives("an argument", s.call(s.function(body, 1, 0), s.vector(5, 6)), 9, 6);
         s.counts("evaluated", 3, 1);
-        s.fails("a failing argument", 4, s.call(s.function(body, 1, 0), s.get(8)));
+        int replacing = s.replace(0, one, nine);
+        s.fails("a failing argument", 4, s.call(s.function(replacing, 1, 0), s.get(8)));
+        s.fails("a failing argument, no element meant", 4,
+                s.call(s.function(s.replace(0, s.nothing(), nine), 1, 0), s.get(8)));
+        int function = s.function(one, 0, 0);
+        s.fails("a function as index before it", 3, s.call(s.function(s.replace(0, function, one), 1, 0), s.get(8)));
+        s.fails("a function as elements before it", 3, s.call(s.function(s.replace(0, one, function), 1, 0), s.get(8)));
         int unchanged = s.then(s.replace(0, s.nothing(), nine), s.setAround(0, nine), s.get(0));
         s.gives("no element meant: no copy", s.call(s.function(unchanged, 0, 0)), 9);
         s.gives("an argument that is a function", s.attempt(s.call(s.function(body, 1, 0), s.function(one, 0, 0)),
