@@ -4,8 +4,8 @@ import java.lang.management.ManagementFactory;
 public final class RoomTest {
     private static final Check CHECK = new Check("RoomTest");
     private static final int CALLS = 512;
-    /** The room is some 600,000 objects and 7.3 million elements of 4 bytes; a vector of 16 takes 96 bytes here. */
-    private static final long MOST_BYTES = 24L * 1000 * 1000;
+    /** The room is some 600,000 objects of 16 bytes beside their 7.3 million fields and elements of 4 bytes. */
+    private static final long MOST_BYTES = 600000L * 16 + 7300000L * 4;
 
     public static void main(String[] args) {
         long before = allocated();
@@ -36,7 +36,7 @@ public final class RoomTest {
             deep = x.expression(9, deep, 0, 0);
         }
         int endless = x.expression(17, x.expression(0, 1, 0, 0), deep, 0);
-        runOften(x, endless, x.count(0), false);
+        runOften(x, endless, false);
     }
 
     /** Calls with two arguments, until a limit ends the run, each time after a reset. */
@@ -47,11 +47,11 @@ public final class RoomTest {
         int number = x.expression(0, 1, 0, 0);
         int call = x.expression(20, function, number, number);
         int endless = x.expression(17, call, call, 0);
-        runOften(x, endless, x.count(0), true);
+        runOften(x, endless, true);
     }
 
-    private static void runOften(VectorLanguage x, int endless, int callsBefore, boolean withResets) {
-        int left = CALLS - callsBefore;
+    private static void runOften(VectorLanguage x, int endless, boolean withResets) {
+        int left = CALLS - 1 - x.count(0);
         int runs = withResets ? left / 2 : left;
         for (int k = 0; k < runs; k++) {
             String outcome = Check.outcome(() -> x.run(endless));

@@ -16,20 +16,15 @@ import java.util.regex.Pattern;
 /** The document's face, and the rules of LANGUAGE.md that can be seen by reflection or in the program's text. */
 public final class RulesTest {
     private static final Check CHECK = new Check("RulesTest");
-    private static final Set<String> FACE = Set.of(
-            "int expression(int, int, int, int) throws IllegalArgumentException, IllegalStateException",
-            "int run(int) throws NoSuchElementException, IndexOutOfBoundsException, IllegalStateException, "
-                    + "UnsupportedOperationException, ArithmeticException",
-            "int element(int) throws IllegalStateException, IndexOutOfBoundsException",
-            "int failure()",
-            "int variable(int) throws IllegalArgumentException",
-            "int value(int, int) throws IllegalArgumentException, NoSuchElementException",
-            "int reset()",
-            "int count(int) throws IllegalArgumentException");
-    private static final Set<String> LIBRARY = Set.of("Arrays.copyOf", "System.arraycopy", "Math.max", "Math.abs",
-            "Math.floorDiv", "Math.floorMod");
-    private static final String[] FORBIDDEN = {"->", "::", "finally", "synchronized", "assert", "try", "catch", "Object",
-        "hashCode", "equals", "toString", "getMessage", "protected", "native", "volatile", "transient", "Exact", "@"};
+    private static final Set<String> FACE = Set.of("int expression(int, int, int, int)", "int run(int)",
+            "int element(int)", "int failure()", "int variable(int)", "int value(int, int)", "int reset()",
+            "int count(int)");
+    private static final Set<String> IMPORTS = Set.of("java.util.Arrays", "java.util.ArrayList", "java.util.List",
+            "java.util.Iterator", "java.util.NoSuchElementException");
+    private static final Pattern LIBRARY = Pattern.compile("Arrays\\.(copyOf|copyOfRange|fill)|System\\.arraycopy"
+            + "|(Math|Integer|Long)\\.(?!\\w*Exact\\b|random\\b)\\w+|List\\.of");
+    private static final String[] FORBIDDEN = {"::", "finally", "synchronized", "assert", "Object", "hashCode", "getMessage",
+        "native", "volatile", "transient", "package", "Thread", "Random", "nanoTime", "currentTimeMillis"};
     private static final int MOST_LINES = 60;
 
     public static void main(String[] args) throws IOException {
@@ -65,12 +60,7 @@ public final class RulesTest {
         for (Class<?> type : method.getParameterTypes()) {
             parameters.add(type.getSimpleName());
         }
-        List<String> thrown = new ArrayList<>();
-        for (Class<?> type : method.getExceptionTypes()) {
-            thrown.add(type.getSimpleName());
-        }
-        return method.getReturnType().getSimpleName() + " " + method.getName() + "(" + String.join(", ", parameters) + ")"
-                + (thrown.isEmpty() ? "" : " throws " + String.join(", ", thrown));
+        return method.getReturnType().getSimpleName() + " " + method.getName() + "(" + String.join(", ", parameters) + ")";
     }
 
     private static void members() {
@@ -85,19 +75,24 @@ public final class RulesTest {
 
     private static void classesInside() {
         Class<?>[] inside = VectorLanguage.class.getDeclaredClasses();
-        Set<String> faceNames = new TreeSet<>();
-        FACE.forEach(method -> faceNames.add(method.substring(4, method.indexOf('('))));
         CHECK.due("at most twelve classes", true, inside.length + 1 <= 12);
+        methodsOf(VectorLanguage.class);
         for (Class<?> type : inside) {
             CHECK.due(type + " is static", true, Modifier.isStatic(type.getModifiers()));
             CHECK.due(type + " is not shown", false, (type.getModifiers() & (Modifier.PUBLIC | Modifier.PROTECTED)) != 0);
             long fields = Arrays.stream(type.getDeclaredFields()).filter(f -> !Modifier.isStatic(f.getModifiers())).count();
             CHECK.due(type + " has few fields", true, fields <= 20);
-            for (Method method : type.getDeclaredMethods()) {
-                CHECK.due(type + " " + method.getName() + " has few parameters", true, method.getParameterCount() <= 7);
-                CHECK.due(type + " " + method.getName() + " is no name of the face", false,
-                        faceNames.contains(method.getName()));
-            }
+            methodsOf(type);
+        }
+    }
+
+    private static void methodsOf(Class<?> type) {
+        for (Method method : type.getDeclaredMethods()) {
+            String name = method.getName();
+            CHECK.due(type + " " + name + " has few parameters", true, method.getParameterCount() <= 7);
+            CHECK.due(type + " " + name + " is private and has a name of the face", false,
+                    Modifier.isPrivate(method.getModifiers())
+                            && FACE.stream().anyMatch(shown -> shown.startsWith("int " + name + "(")));
         }
     }
 
@@ -106,16 +101,13 @@ public final class RulesTest {
     }
 
     private static void library(String code) {
-        Set<String> imports = new TreeSet<>();
         Matcher line = Pattern.compile("(?m)^import (.*);").matcher(code);
         while (line.find()) {
-            imports.add(line.group(1));
+            CHECK.due("import of " + line.group(1), true, IMPORTS.contains(line.group(1)));
         }
-        CHECK.due("imports", Set.of("java.util.Arrays", "java.util.NoSuchElementException"), imports);
-        Matcher call = Pattern.compile("\\b(Arrays|System|Math|Integer|Long|String)\\.\\w+").matcher(
-                code.replace("java.util.Arrays", ""));
+        Matcher call = Pattern.compile("(?<![\\w.])(Arrays|System|Math|Integer|Long|String|List)\\.\\w+").matcher(code);
         while (call.find()) {
-            CHECK.due(call.group() + " is in the library", true, LIBRARY.contains(call.group()));
+            CHECK.due(call.group() + " is in the library", true, LIBRARY.matcher(call.group()).matches());
         }
     }
 
@@ -124,8 +116,11 @@ public final class RulesTest {
             CHECK.due("no " + word, false, Pattern.compile("(?<!\\w)" + Pattern.quote(word) + "(?!\\w)").matcher(code)
                     .find());
         }
-        CHECK.due("no package", false, code.contains("package "));
-        CHECK.due("no array of arrays", false, code.contains("[]["));
+        CHECK.due("no lambda", false, Pattern.compile("(?m)^(?!\\s*(case|default)\\b).*->").matcher(code).find());
+        CHECK.due("no arrays of arrays of objects", false, Pattern.compile("[A-Z]\\w*\\[[^\\]]*\\]\\[").matcher(code).find());
+        CHECK.due("no static state", false, Pattern.compile("(?m)^\\s*(private )?static (?!final|class|abstract)[\\w\\[\\]]+ \\w+( =.*)?;")
+                .matcher(code).find());
+        CHECK.due("no static block", false, Pattern.compile("(?m)^\\s*static \\{").matcher(code).find());
     }
 
     /** A method begins at a line that ends with a brace behind a parenthesis, and ends at the next lone brace under it. */
