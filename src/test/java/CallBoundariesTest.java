@@ -12,6 +12,7 @@ public final class CallBoundariesTest {
         assignedInItsOwnAlone();
         assignedAroundNearest();
         assignedAroundInTheGlobalOne();
+        evaluatedInItsEnvironment();
         evaluatedTheFirstTimeAlone();
         wantedWithinItself();
         wantedWithinItselfByAnother();
@@ -98,6 +99,22 @@ public final class CallBoundariesTest {
         s.has("something there", 9);
         s.fails("no value", 4, s.setAround(9, s.get(0)));
         s.has("as before", 9);
+    }
+
+    private static void evaluatedInItsEnvironment() {
+        Script s = new Script(CHECK, "An ARGUMENT is an expression and the environment to evaluate it in");
+        int both = s.join(s.get(0), s.get(1));
+        s.quietly(s.set(0, s.number(10)));
+        s.quietly(s.set(1, s.number(20)));
+        s.quietly(s.set(2, s.function(both, 2, 0)));
+        int swapped = s.call(s.get(2), s.get(1), s.get(0));
+        s.gives("the global one", swapped, 20, 10);
+        s.gives("that of a call", s.call(s.function(swapped, 2, 0), s.number(3), s.number(4)), 4, 3);
+        s.counts("all four were evaluated", 3, 4);
+        int assigning = s.call(s.get(2), s.set(0, s.number(5)), s.set(1, s.number(6)));
+        s.gives("assigned there", assigning, 5, 6);
+        s.has("assigned there", 0, 5);
+        s.has("assigned there", 1, 6);
     }
 
     /** How often an argument is evaluated that counts in variable 1 and then has this value. */

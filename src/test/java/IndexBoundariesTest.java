@@ -277,6 +277,9 @@ public final class IndexBoundariesTest {
         int replacing = s.replace(0, s.then(s.set(0, s.vector(1, 2)), one), s.then(s.set(0, s.vector(3, 4, 5)), one));
         s.gives("after b and c", replacing, 1);
         s.has("after b and c", 0, 1, 4, 5);
+        s.quietly(s.set(0, s.function(one, 0, 0)));
+        s.gives("no function any more", replacing, 1);
+        s.has("no function any more", 0, 1, 4, 5);
         s.fails("a failure in b before c", 4, s.replace(0, s.get(8), s.set(1, one)));
         s.hasNothing("c was not evaluated", 1);
         s.fails("a failure in c", 4, s.replace(0, one, s.get(8)));
