@@ -394,7 +394,7 @@ public final class VectorLanguage {
             if (x == NA || y == NA) {
                 return NA;
             }
-            return kind == COMPARISON ? compare(operation, x, y) : calculate(operation, x, y);
+            return kind == COMPARISON ? compare(operation, x, y) : inRange(calculate(operation, x, y));
         }
 
         static int not(int x) {
@@ -435,14 +435,11 @@ public final class VectorLanguage {
         }
 
         private static int or(int x, int y) {
-            if (isTrue(x) || isTrue(y)) {
+            boolean anyTrue = x != 0 && x != NA || y != 0 && y != NA;
+            if (anyTrue) {
                 return 1;
             }
             return x == NA || y == NA ? NA : 0;
-        }
-
-        private static boolean isTrue(int x) {
-            return x != 0 && x != NA;
         }
 
         private static int compare(int operation, int x, int y) {
@@ -456,14 +453,15 @@ public final class VectorLanguage {
             }
         }
 
-        private static int calculate(int operation, int x, int y) {
+        /** The result before it is looked at for its range; NA is out of range and so stays NA. */
+        private static long calculate(int operation, int x, int y) {
             switch (operation) {
                 case PLUS:
-                    return inRange((long) x + y);
+                    return (long) x + y;
                 case MINUS:
-                    return inRange((long) x - y);
+                    return (long) x - y;
                 case TIMES:
-                    return inRange((long) x * y);
+                    return (long) x * y;
                 case QUOTIENT:
                     return y == 0 ? NA : Math.floorDiv(x, y);
                 default:

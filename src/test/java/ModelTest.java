@@ -8,8 +8,8 @@ import java.util.TreeMap;
 public final class ModelTest {
     private static final Check CHECK = new Check("ModelTest");
     private static final int ROUNDS = 6000;
-    /** An object is promised for 512 calls; a step makes less than 20. */
-    private static final int CALLS = 512 - 20;
+    /** An object is promised for so many calls, and all of them are made. */
+    private static final int CALLS = 512;
     private static final int[] NUMBERS = {0, 0, 1, 1, 1, 2, 2, 3, 4, 5, 7, 9, 15, 16, 17, -1, -1, -2, -3, -16, 99, 100,
         1000000000, -1000000000, 1000000001, -1000000001};
     /** The kinds to make, those with much to go wrong more often. */
@@ -52,7 +52,11 @@ public final class ModelTest {
         CHECK.end();
     }
 
+    /** Leaves out the calls of a step that would be more than are promised. */
     private void compare(String call, Check.Call onLanguage, Check.Call onModel) {
+        if (calls.size() == CALLS) {
+            return;
+        }
         String want = Check.outcome(onModel);
         calls.add(call + " " + want);
         CHECK.due(call, want, Check.outcome(onLanguage));
